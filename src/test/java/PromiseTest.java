@@ -38,6 +38,7 @@ public final class PromiseTest {
         morning();
         comes();
         all();
+        aFullHouse();
         System.out.println(right + " answers as due, " + wrong + " not");
         if (wrong != 0) {
             System.exit(1);
@@ -284,6 +285,15 @@ public final class PromiseTest {
         due("head and line at 60", office.hidden(1), 0);
         office.set(59, 1, 5);
         due("the line a little lower", office.hidden(1), 1);
+        CrowningSeats other = office();
+        joinWithEye(other, 4, 56);
+        joinWithEye(other, 4, 61);
+        other.row(4, 0, 20);
+        other.row(4, 0, 20);
+        other.seat(false);
+        due("head at 61, line at 60 and a half", other.hidden(1), 1);
+        other.set(61, 1, 5);
+        due("the line at 61", other.hidden(1), 0);
     }
 
     private static void rules() {
@@ -1009,5 +1019,53 @@ public final class PromiseTest {
         due("all(7)", office.all(7), NONE);
         due("all(lowest)", office.all(LOW), NONE);
         due("all(highest)", office.all(HIGH), NONE);
+    }
+
+    /** 32 guests of whom all sit: no number below or above theirs is one of them. */
+    private static void aFullHouse() {
+        CrowningSeats office = office();
+        for (int i = 0; i < 32; i++) {
+            join(office, 1, 1000);
+        }
+        for (int i = 0; i < 6; i++) {
+            office.row(6, 300, 60);
+        }
+        office.seat(false);
+        due("morning(4, 100)", office.morning(4, 100), 92);
+        for (int guest : new int[] {LOW, -1, 32, 33, HIGH}) {
+            String nobody = "(" + guest + ")";
+            promise = 5;
+            due("gone" + nobody, office.gone(guest, true), false);
+            promise = 6;
+            due("bar" + nobody, office.bar(guest, 0, true) || office.bar(0, guest, true), false);
+            promise = 11;
+            due("rank" + nobody, office.rank(guest), NONE);
+            promise = 12;
+            due("ranked" + nobody, office.ranked(guest), NONE);
+            promise = 15;
+            due("sits" + nobody, office.sits(guest, 0), -2);
+            promise = 16;
+            due("at" + nobody, Math.max(office.at(guest, 0), office.at(0, guest)), NONE);
+            promise = 17;
+            due("spare" + nobody, office.spare(guest), NONE);
+            promise = 18;
+            due("hidden" + nobody, office.hidden(guest), NONE);
+            promise = 19;
+            due("hider" + nobody, Math.max(office.hider(guest, 0), office.hider(31, guest)), NONE);
+            promise = 20;
+            due("stage" + nobody, office.stage(guest), NONE);
+            promise = 22;
+            due("comes" + nobody, office.comes(guest, 0), NONE);
+        }
+        promise = 22;
+        dueCarriage(office, 31, 0, 0, 0);
+        dueCarriage(office, 0, 7, 3, 31);
+        promise = 23;
+        due("all(5)", office.all(5), 32);
+        due("all(6)", office.all(6), 6);
+        office.gone(0, true);
+        promise = 12;
+        due("ranked(30)", office.ranked(30), 31);
+        due("ranked(31)", office.ranked(31), NONE);
     }
 }
