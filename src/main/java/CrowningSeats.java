@@ -142,7 +142,7 @@ public final class CrowningSeats {
 
     public int seat(boolean anew) {
         Seating next = idle;
-        planner.prepare(people, order, latest, anew && latest.isMade);
+        planner.prepare(people, order, latest, anew);
         int cost = planner.plan(hall, next);
         idle = latest;
         latest = next;
@@ -733,6 +733,7 @@ public final class CrowningSeats {
         private int used;
         private int last;
 
+        /** A seating ahead that was never made has nobody in it, so all count as left out there. */
         void prepare(Guests people, Order order, Seating ahead, boolean countsMoves) {
             count = order.count;
             movePrice = countsMoves ? 1 : 0;

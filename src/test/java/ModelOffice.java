@@ -239,7 +239,7 @@ final class ModelOffice implements Office {
     public int seat(boolean anew) {
         planned = order();
         ahead = seating == null ? Map.of() : seating;
-        countsMoves = anew && seating != null;
+        countsMoves = anew;
         Tail best = planned.size() <= BRUTE_FORCE_UP_TO
             ? tryAll("") : bestTail(0, 0, 0, -1, new HashMap<>());
         Map<Integer, Spot> next = spots(best.rows());

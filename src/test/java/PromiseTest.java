@@ -561,13 +561,6 @@ public final class PromiseTest {
         dueSpot(office, 0, 0, 0);
         dueSpot(office, 1, 0, 2);
         dueSpot(office, 2, NONE, NONE);
-        CrowningSeats first = office();
-        join(first, 2, 5);
-        join(first, 2, 5);
-        join(first, 4, 10);
-        first.row(4, 0, 20);
-        due("anew without one ahead is as if there had been none", first.seat(true), 10);
-        dueSpot(first, 0, 0, 0);
         leftOutComesLast();
     }
 
@@ -613,6 +606,51 @@ public final class PromiseTest {
         due("moved()", office.moved(), 0);
         costAheadOfMoves();
         anewInALaterRow();
+        anewWithoutOneAhead();
+        anewBehindOneWithNobodyInIt();
+    }
+
+    private static void anewWithoutOneAhead() {
+        CrowningSeats office = office();
+        join(office, 2, 5);
+        join(office, 2, 5);
+        join(office, 4, 10);
+        office.row(4, 0, 20);
+        due("anew, none ahead: one comes in rather than two", office.seat(true), 10);
+        dueSpot(office, 0, NONE, NONE);
+        dueSpot(office, 1, NONE, NONE);
+        dueSpot(office, 2, 0, 0);
+        due("moved()", office.moved(), 1);
+        CrowningSeats alike = office();
+        join(alike, 2, 5);
+        join(alike, 2, 5);
+        alike.row(4, 0, 20);
+        alike.row(4, 0, 20);
+        due("anew, none ahead, as many come in either way: the first", alike.seat(true), 0);
+        dueSpot(alike, 0, 0, 0);
+        dueSpot(alike, 1, 0, 2);
+        CrowningSeats cheap = office();
+        join(cheap, 2, 5);
+        join(cheap, 2, 6);
+        join(cheap, 4, 10);
+        cheap.row(4, 0, 20);
+        due("anew, none ahead: the least cost, though two come in", cheap.seat(true), 10);
+        dueSpot(cheap, 0, 0, 0);
+        dueSpot(cheap, 2, NONE, NONE);
+        due("moved()", cheap.moved(), 2);
+    }
+
+    private static void anewBehindOneWithNobodyInIt() {
+        CrowningSeats office = office();
+        office.row(4, 0, 20);
+        due("a seating of nobody", office.seat(false), 0);
+        join(office, 2, 5);
+        join(office, 2, 5);
+        join(office, 4, 10);
+        due("anew: who was not in it counts as left out", office.seat(true), 10);
+        dueSpot(office, 0, NONE, NONE);
+        dueSpot(office, 2, 0, 0);
+        due("moved()", office.moved(), 1);
     }
 
     private static void costAheadOfMoves() {

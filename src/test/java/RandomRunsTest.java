@@ -2,9 +2,10 @@ import java.util.ArrayList;
 import java.util.List;
 import java.util.Random;
 
-/** Runs of 512 calls, drawn from fixed seeds, on the class and on the model: each answer must be the same. */
+/** Runs of calls, drawn from fixed seeds, on the class and on the model: each answer must be the same. */
 public final class RandomRunsTest {
     private static final int CALLS = 512;
+    private static final int SHORT_RUNS_PER_LONG = 10;
     private static final String[] WORDS = {
         "a", "b", "c", "d", "e", "f", "g", "h", "i", "by", "least", "most", "date", "age", "worth", "width", "eye",
         ",", ";", " ", "\n", "bye", "A", "7", "\t", "\r", "\u00ff", "\u0000"
@@ -20,12 +21,15 @@ public final class RandomRunsTest {
     private final List<String> calls = new ArrayList<>();
     private final int mostGuests;
     private final int narrow;
+    /** Whether a guest is worth as much as they are wide, so that full rows cost the same, whoever sits there. */
+    private final boolean tied;
     private int wrong;
 
-    private RandomRunsTest(long seed, int mostGuests, int narrow) {
+    private RandomRunsTest(long seed, int mostGuests, int narrow, boolean tied) {
         random = new Random(seed);
         this.mostGuests = mostGuests;
         this.narrow = narrow;
+        this.tied = tied;
     }
 
     public static void main(String[] args) {
@@ -33,23 +37,53 @@ public final class RandomRunsTest {
         int failed = 0;
         for (int seed = 0; seed < runs; seed++) {
             // Few guests are seated by trying all seatings; narrow rows and few worths make many of the same cost.
-            RandomRunsTest run = seed % 3 == 0 ? new RandomRunsTest(seed, 5, 6)
-                : seed % 3 == 1 ? new RandomRunsTest(seed, 12, 10) : new RandomRunsTest(seed, 40, 40);
+            RandomRunsTest run = seed % 3 == 0 ? new RandomRunsTest(seed, 5, 6, false)
+                : seed % 3 == 1 ? new RandomRunsTest(seed, 12, 10, false) : new RandomRunsTest(seed, 40, 40, false);
+            run.runLong();
             if (!run.passes(seed)) {
                 failed++;
             }
         }
-        System.out.println((runs - failed) + " runs are as the model has them, " + failed + " are not");
+        int shortRuns = SHORT_RUNS_PER_LONG * runs;
+        for (int seed = 0; seed < shortRuns; seed++) {
+            RandomRunsTest run = new RandomRunsTest(seed, seed % 2 == 0 ? 5 : 9, 8, true);
+            run.runShort();
+            if (!run.passes(seed)) {
+                failed++;
+            }
+        }
+        System.out.println((runs + shortRuns - failed) + " runs are as the model has them, " + failed + " are not");
         if (failed != 0) {
             System.exit(1);
         }
     }
 
-    private boolean passes(long seed) {
+    private void runLong() {
         begin();
         while (calls.size() < CALLS && wrong == 0) {
             step();
         }
+    }
+
+    /** A long run has one first seating alone; here there are many, and most could be had in several ways. */
+    private void runShort() {
+        for (int i = between(2, mostGuests); i > 0; i--) {
+            guest();
+        }
+        for (int i = between(1, 2); i > 0; i--) {
+            row();
+        }
+        readText(random.nextBoolean() ? "a,b,c,d,e,f,g,h;" : text());
+        for (int i = between(0, 2); i > 0; i--) {
+            bar();
+        }
+        for (int i = between(1, 4); i > 0 && wrong == 0; i--) {
+            seat();
+            gone();
+        }
+    }
+
+    private boolean passes(long seed) {
         if (wrong != 0) {
             System.out.println("seed " + seed + ": ");
             for (String call : calls) {
@@ -106,9 +140,7 @@ public final class RandomRunsTest {
         } else if (kind < 7) {
             row();
         } else if (kind < 12) {
-            int guest = someGuest();
-            boolean gone = random.nextInt(5) < 3;
-            note("gone(" + guest + ", " + gone + ")", real.gone(guest, gone), model.gone(guest, gone));
+            gone();
         } else if (kind < 18) {
             bar();
         } else if (kind < 23) {
@@ -122,10 +154,7 @@ public final class RandomRunsTest {
             note("set(" + stage + ", " + free + ", " + empty + ")", real.set(stage, free, empty),
                 model.set(stage, free, empty));
         } else if (kind < 34) {
-            boolean anew = random.nextInt(3) > 0;
-            note("seat(" + anew + ")", real.seat(anew), model.seat(anew));
-            note("moved()", real.moved(), model.moved());
-            lookAtAll();
+            seat();
         } else if (kind < 38) {
             int gates = number(1, 4);
             int shut = number(0, 300);
@@ -183,7 +212,7 @@ public final class RandomRunsTest {
         int age = random.nextBoolean() ? number(20, 22) : number(0, 120);
         int width = number(1, narrow < 10 ? 3 : 6);
         int eye = number(30, 80);
-        int worth = random.nextBoolean() ? number(1, 6) : number(1, 1000);
+        int worth = tied ? width : random.nextBoolean() ? number(1, 6) : number(1, 1000);
         note("guest(" + kind + ", " + date + ", " + age + ", " + width + ", " + eye + ", " + worth + ")",
             real.guest(kind, date, age, width, eye, worth), model.guest(kind, date, age, width, eye, worth));
     }
@@ -193,6 +222,19 @@ public final class RandomRunsTest {
         int floor = number(0, random.nextBoolean() ? 40 : 300);
         int deep = number(20, 60);
         note("row(" + wide + ", " + floor + ", " + deep + ")", real.row(wide, floor, deep), model.row(wide, floor, deep));
+    }
+
+    private void gone() {
+        int guest = someGuest();
+        boolean gone = random.nextInt(5) < 3;
+        note("gone(" + guest + ", " + gone + ")", real.gone(guest, gone), model.gone(guest, gone));
+    }
+
+    private void seat() {
+        boolean anew = random.nextInt(3) > 0;
+        note("seat(" + anew + ")", real.seat(anew), model.seat(anew));
+        note("moved()", real.moved(), model.moved());
+        lookAtAll();
     }
 
     private void bar() {
