@@ -1,9 +1,5 @@
 /** Each promise of the document by itself: ordinary inputs, the edges that it names, and wrong inputs. */
-public final class PromiseTest {
-    private static final int NONE = CrowningSeats.NONE;
-    private static final int LOW = Integer.MIN_VALUE;
-    private static final int HIGH = Integer.MAX_VALUE;
-
+public final class PromiseTest extends OfficeCalls {
     private static int promise;
     private static int wrong;
     private static int right;
@@ -58,38 +54,11 @@ public final class PromiseTest {
         due(what, got ? 1 : 0, want ? 1 : 0);
     }
 
-    // Short ways to bring an office into some state.
-
-    private static void put(CrowningSeats office, String text) {
-        office.end(0);
-        for (int i = 0; i < text.length(); i += 20) {
-            int[] five = new int[5];
-            for (int k = 0; k < 20; k++) {
-                five[k / 4] = five[k / 4] << 8 | (i + k < text.length() ? text.charAt(i + k) : '?');
-            }
-            office.feed(five[0], five[1], five[2], five[3], five[4]);
-        }
-        office.end(text.length());
-    }
-
-    private static int read(CrowningSeats office, String text) {
-        put(office, text);
-        return office.rules();
-    }
-
     /** An office in which all kinds are one line, in the order of their numbers. */
     private static CrowningSeats office() {
         CrowningSeats office = new CrowningSeats();
-        read(office, "a,b,c,d,e,f,g,h;");
+        read(office, ALL_KINDS);
         return office;
-    }
-
-    private static int join(CrowningSeats office, int width, int worth) {
-        return office.guest(0, 0, 0, width, 40, worth);
-    }
-
-    private static int joinWithEye(CrowningSeats office, int width, int eye) {
-        return office.guest(0, 0, 0, width, eye, 1000);
     }
 
     private static void dueSpot(CrowningSeats office, int guest, int row, int place) {
